@@ -12,7 +12,7 @@ import java.util.List;
  * in the class, a later answer differs.
  */
 public final class ModelTest {
-  private static final int RUNS = 400;
+  private static final int RUNS = 600;
   private static final int CALLS = 512;
   private static final int MOST_SHOWN = 20;
 
@@ -34,29 +34,29 @@ public final class ModelTest {
           new Kind("strays", "d", 8),
           new Kind("admits", "d", 8),
           new Kind("find", "D", 10),
-          new Kind("lose", "k", 3),
+          new Kind("lose", "k", 5),
           new Kind("unsafe", "", 4),
-          new Kind("replace", "k", 5),
+          new Kind("replace", "k", 8),
           new Kind("setBlank", "w", 3),
           new Kind("profileOf", "k", 4),
           new Kind("setWard", "dw", 4),
           new Kind("setThin", "b", 3),
           new Kind("thin", "d", 5),
           new Kind("pinsNeeded", "", 5),
-          new Kind("both", "enno", 6),
+          new Kind("both", "esno", 8),
           new Kind("below", "kh", 6),
           new Kind("belowAt", "khnc", 10),
-          new Kind("cutBelow", "khnd", 6),
+          new Kind("cutBelow", "khnd", 8),
           new Kind("addRule", "KRb", 3),
           new Kind("applyRules", "", 2),
           new Kind("keepBlock", "", 3),
           new Kind("findIn", "BD", 6),
           new Kind("setBuilding", "dk", 5),
           new Kind("use", "dk", 8),
-          new Kind("setControl", "k", 4),
+          new Kind("setControl", "k", 8),
           new Kind("exchange", "ddk", 8),
           new Kind("planDays", "l", 5),
-          new Kind("planAt", "lot", 8),
+          new Kind("planAt", "loo", 12),
           new Kind("ring", "kk", 4),
           new Kind("setDeputy", "pq", 5),
           new Kind("setAway", "pb", 5),
@@ -66,15 +66,15 @@ public final class ModelTest {
           new Kind("bring", "k", 6),
           new Kind("holder", "k", 6),
           new Kind("late", "", 5),
-          new Kind("pass", "H", 5),
-          new Kind("addGate", "zz", 6),
+          new Kind("pass", "H", 4),
+          new Kind("addGate", "zy", 6),
           new Kind("lockAgainst", "gg", 3),
           new Kind("addCard", "p", 6),
           new Kind("allow", "rga", 20),
-          new Kind("bar", "rb", 4),
+          new Kind("bar", "rb", 2),
           new Kind("load", "r", 14),
           new Kind("tryCard", "gr", 40),
-          new Kind("goOut", "gp", 10),
+          new Kind("goOut", "gp", 20),
           new Kind("shut", "g", 12),
           new Kind("zoneOf", "p", 6),
           new Kind("barredAt", "g", 5),
@@ -82,6 +82,19 @@ public final class ModelTest {
           new Kind("cleanShare", "", 3),
           new Kind("meanWished", "", 3),
           new Kind("isSound", "", 2));
+
+  /** What is called again and again in a run at gates, and in a run that searches. */
+  private static final List<String> AT_GATES =
+      List.of(
+          "allow", "allow", "allow", "allow", "load", "load", "load", "tryCard", "tryCard",
+          "tryCard", "tryCard", "tryCard", "shut", "shut", "shut", "zoneOf", "goOut", "goOut",
+          "setGuard", "barredAt");
+
+  private static final List<String> SEARCHING =
+      List.of(
+          "find", "findIn", "findIn", "replace", "replace", "strays", "admits", "thin", "depthOf",
+          "depthOf", "opens", "isWished", "checksum", "planAt", "exchange", "cut", "keepBlock",
+          "setControl", "use", "unsafe", "lose");
 
   private long seed;
   private int wrong;
@@ -126,7 +139,7 @@ public final class ModelTest {
       same = call(run, kindNamed("machine"), new Object[] {3 + below(run % 10 == 1 ? 4 : 2), 2 + below(5), 1 + below(5)}, told);
     }
     for (int i = 0; i < CALLS - 1 && same; i++) {
-      int which = i < 40 ? early() : any();
+      int which = i < 40 ? early() : flavoured(run);
       same = call(run, which, arguments(KINDS.get(which)), told);
     }
     if (wrong > before) {
@@ -135,8 +148,14 @@ public final class ModelTest {
   }
 
   private int early() {
-    String[] names = {"addDoor", "addPerson", "cut", "cut", "cut", "addKey", "addGate", "addCard", "find"};
+    String[] names = {"addDoor", "addPerson", "cut", "cut", "cut", "addKey", "addGate", "addCard", "find", "find", "find"};
     return kindNamed(names[below(names.length)]);
+  }
+
+  /** Some runs keep to few calls for the most part, so that they come to what is rare. */
+  private int flavoured(int run) {
+    List<String> names = run % 3 == 0 ? AT_GATES : SEARCHING;
+    return run % 3 == 2 || below(12) == 0 ? any() : kindNamed(names.get(below(names.size())));
   }
 
   private static int kindNamed(String name) {
@@ -191,10 +210,11 @@ public final class ModelTest {
   private Object argument(char kind) {
     return switch (kind) {
       case 'm' -> 2 + below(6);
-      case 'n' -> below(8);
-      case 'o' -> below(8) - 1;
-      case 'e' -> below(8) - 1;
-      case 'c' -> below(8) - 1;
+      case 'n' -> below(20) == 0 ? -1 : below(below(4) == 0 ? 8 : 4);
+      case 'o' -> below(20) == 0 ? -1 : below(below(4) == 0 ? 7 : 2);
+      case 's' -> below(20) == 0 ? 4 * below(2) : 1 + below(3);
+      case 'e' -> below(20) == 0 ? -1 : below(below(4) == 0 ? 7 : 3);
+      case 'c' -> below(20) == 0 ? -1 : below(below(4) == 0 ? 7 : 3);
       case 'k' -> among(plain.keyCount());
       case 'd' -> among(plain.doorCount());
       case 'p' -> among(plain.personCount());
@@ -205,12 +225,12 @@ public final class ModelTest {
       case 'D' -> below(30) == 0 ? -below(2) : below(30) == 0 ? 1 << plain.doorCount() : someDoors();
       case 'K' -> below(20) == 0 ? 65536 * below(2) : below(20) == 0 ? 65535 : below(65536);
       case 'R' -> below(20) == 0 ? 1024 * below(2) : below(20) == 0 ? 1023 : below(1024);
-      case 'h' -> below(20) == 0 ? -1 : below(65);
+      case 'h' -> below(20) == 0 ? -1 : below(20) == 0 ? 64 : below(below(8) == 0 ? 64 : 8);
       case 'w' -> below(15) == 0 ? -1 : below(15) == 0 ? 8 : below(3) == 0 ? below(8) : 0;
       case 'l' -> below(4) == 0 ? below(12) : 1 + below(4);
-      case 't' -> below(5) - 1;
       case 'H' -> below(8) == 0 ? hourAtEdge() : 1 + below(60);
       case 'z' -> below(12) == 0 ? below(7) - 1 : below(3);
+      case 'y' -> below(2) == 0 ? 0 : below(below(12) == 0 ? 6 : 3);
       case 'a' -> below(6) != 0;
       default -> below(2) == 0;
     };
