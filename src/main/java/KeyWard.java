@@ -162,7 +162,7 @@ public final class KeyWard {
   public boolean opens(int door, int key) throws IndexOutOfBoundsException {
     needDoor(door);
     needKey(key);
-    return isOpenedBy(doors[door], key);
+    return isOpenedBy(doors[door], pinsOf(doors[door].wished), key);
   }
 
   public int strays(int door) throws IndexOutOfBoundsException {
@@ -398,7 +398,7 @@ public final class KeyWard {
   public boolean use(int door, int key) throws IndexOutOfBoundsException {
     needDoor(door);
     needKey(key);
-    boolean isOpened = isOpenedBy(doors[door], key);
+    boolean isOpened = isOpenedBy(doors[door], pinsOf(doors[door].wished), key);
     if (has(doors[door].wished, key)) {
       doors[door].building = NONE;
     }
@@ -845,21 +845,20 @@ public final class KeyWard {
     return pins;
   }
 
-  private boolean isOpenedBy(Door door, int key) {
-    return door.building == key || isOpenedByPins(door, key);
+  /** The pins are those of the door; they come along, as many keys are asked for one door. */
+  private boolean isOpenedBy(Door door, long pins, int key) {
+    return door.building == key || isOpenedByPins(door, pins, key);
   }
 
-  private boolean isOpenedByPins(Door door, int key) {
-    return fits(keys[key].profile, door.ward) && isLetIn(keys[key].cuts, pinsOf(door.wished));
+  private boolean isOpenedByPins(Door door, long pins, int key) {
+    return fits(keys[key].profile, door.ward) && isLetIn(keys[key].cuts, pins);
   }
 
   private int countStrays(Door door) {
     long pins = pinsOf(door.wished);
     int count = 0;
     for (int i = 0; i < keyCount; i++) {
-      boolean isStray =
-          !has(door.wished, i) && fits(keys[i].profile, door.ward) && isLetIn(keys[i].cuts, pins);
-      if (isStray) {
+      if (!has(door.wished, i) && isOpenedByPins(door, pins, i)) {
         count++;
       }
     }
@@ -1008,7 +1007,7 @@ public final class KeyWard {
   private int countOpened(int key) {
     int count = 0;
     for (int i = 0; i < doorCount; i++) {
-      if (isOpenedBy(doors[i], key)) {
+      if (isOpenedBy(doors[i], pinsOf(doors[i].wished), key)) {
         count++;
       }
     }
@@ -1016,9 +1015,10 @@ public final class KeyWard {
   }
 
   private int countLostAt(Door door) {
+    long pins = pinsOf(door.wished);
     int count = 0;
     for (int i = 0; i < keyCount; i++) {
-      if (keys[i].isLost && isOpenedBy(door, i)) {
+      if (keys[i].isLost && isOpenedBy(door, pins, i)) {
         count++;
       }
     }
@@ -1089,7 +1089,7 @@ public final class KeyWard {
     }
   }
 
-  /** Who comes again on the way is away as before, so it is enough to go as far as there are persons. */
+  /** Who comes again on the way is away as before, so as many steps as persons are enough. */
   private int takerFor(int person) {
     int taker = person;
     for (int i = 0; i < personCount; i++) {
@@ -1152,8 +1152,9 @@ public final class KeyWard {
 
   private boolean doWishedOpen() {
     for (int i = 0; i < doorCount; i++) {
+      long pins = pinsOf(doors[i].wished);
       for (int k = 0; k < keyCount; k++) {
-        if (has(doors[i].wished, k) && !isOpenedByPins(doors[i], k)) {
+        if (has(doors[i].wished, k) && !isOpenedByPins(doors[i], pins, k)) {
           return false;
         }
       }

@@ -15,6 +15,9 @@ public final class ModelTest {
   private static final int RUNS = 600;
   private static final int CALLS = 512;
   private static final int MOST_SHOWN = 20;
+  private static final int[] FAR = {
+    Integer.MIN_VALUE, Integer.MIN_VALUE + 1, -1000, -32, 31, 32, 33, 64, 1 << 16, Integer.MAX_VALUE
+  };
 
   /** A call, what its arguments are, and how often it comes. */
   private record Kind(String name, String arguments, int weight) {}
@@ -203,6 +206,9 @@ public final class ModelTest {
     Object[] row = new Object[kind.arguments.length()];
     for (int i = 0; i < row.length; i++) {
       row[i] = argument(kind.arguments.charAt(i));
+      if (row[i] instanceof Integer && below(150) == 0) {
+        row[i] = FAR[below(FAR.length)];
+      }
     }
     return row;
   }

@@ -102,6 +102,11 @@ public final class SearchTest {
     KeyWard fine = Check.made(x -> house(x, 2));
     fine.find(1);
     found("14: thin ones are fine", fine, fine.find(1), 0, 0, 1);
+    Check.refuses("14: neither less nor more by 1", Check.MISSING, x -> {
+      house(x, 1);
+      x.wish(0, Check.key(x, 1, 1, 1), true);
+      x.setThin(false);
+    }, x -> x.find(1));
     Check.refuses("14: another door has a thin chamber", Check.MISSING, x -> {
       house(x, 2);
       x.find(1);
