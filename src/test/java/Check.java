@@ -16,6 +16,11 @@ final class Check {
     void of(KeyWard house);
   }
 
+  /** A call of which one argument is told. */
+  interface NumberCall {
+    Object on(KeyWard house, int number);
+  }
+
   private interface Probe {
     void of(KeyWard house, StringBuilder told);
   }
@@ -68,6 +73,18 @@ final class Check {
     }
   }
 
+  /** Refuses the numbers next to a range, those that a shift or a narrow type lets wrap, and far ones. */
+  static void refusesOutside(
+      String what, Class<?> due, int least, int most, Setting setting, NumberCall call) {
+    int[] numbers = {
+      Integer.MIN_VALUE, least - 65536, least - 32, least - 1,
+      most + 1, most + 32, most + 256, most + 65536, Integer.MAX_VALUE
+    };
+    for (int number : numbers) {
+      refuses(what + " " + number, due, setting, x -> call.on(x, number));
+    }
+  }
+
   static void end() {
     System.exit(wrong > 0 ? 1 : 0);
   }
@@ -106,6 +123,31 @@ final class Check {
     for (int i = 0; i < count; i++) {
       key(house, i >> 3 & 1, i >> 2 & 1, i >> 1 & 1, i & 1);
     }
+  }
+
+  /** As many of everything as there can be, but the last key: 3 chambers, 6 depths, 5 apart. */
+  static void nearlyFull(KeyWard house) {
+    house.machine(3, 6, 5);
+    for (int i = 0; i < 15; i++) {
+      key(house, i / 6, i % 6, 0);
+    }
+    doors(house, 10);
+    persons(house, 8);
+    for (int i = 0; i < 8; i++) {
+      house.addGate(i % 5, (i + 1) % 5);
+    }
+    for (int i = 0; i < 12; i++) {
+      house.addCard(i % 8);
+    }
+    block(house, 4);
+    block(house, 5, 0);
+    block(house, 5, 1);
+    block(house, 5, 2);
+  }
+
+  static void full(KeyWard house) {
+    nearlyFull(house);
+    key(house, 2, 3, 0);
   }
 
   // ---- probes

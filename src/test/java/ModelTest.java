@@ -1,9 +1,5 @@
-import java.lang.reflect.InvocationTargetException;
-import java.lang.reflect.Method;
-import java.lang.reflect.Modifier;
 import java.util.ArrayList;
 import java.util.Arrays;
-import java.util.Comparator;
 import java.util.List;
 
 /**
@@ -102,39 +98,22 @@ public final class ModelTest {
   private long seed;
   private int wrong;
   private int total;
-  private PlainHouse plain;
-  private KeyWard house;
-  private final List<Method> ours = new ArrayList<>();
-  private final List<Method> theirs = new ArrayList<>();
+  private Pair pair;
 
-  public static void main(String[] args) throws Exception {
+  public static void main(String[] args) {
     ModelTest test = new ModelTest();
-    test.findMethods();
+    for (Kind kind : KINDS) {
+      test.total += kind.weight;
+    }
     for (int run = 0; run < RUNS && test.wrong < MOST_SHOWN; run++) {
       test.run(run);
     }
     System.exit(test.wrong > 0 ? 1 : 0);
   }
 
-  private void findMethods() throws Exception {
-    for (Kind kind : KINDS) {
-      ours.add(named(KeyWard.class, kind.name));
-      theirs.add(named(PlainHouse.class, kind.name));
-      total += kind.weight;
-    }
-  }
-
-  private static Method named(Class<?> type, String name) {
-    return Arrays.stream(type.getDeclaredMethods())
-        .filter(m -> m.getName().equals(name) && Modifier.isPublic(m.getModifiers()))
-        .min(Comparator.comparing(Method::getName))
-        .orElseThrow();
-  }
-
-  private void run(int run) throws Exception {
+  private void run(int run) {
     seed = run * 7919L + 17;
-    house = new KeyWard();
-    plain = new PlainHouse();
+    pair = new Pair();
     List<String> told = new ArrayList<>();
     boolean same = true;
     int before = wrong;
@@ -181,25 +160,16 @@ public final class ModelTest {
     return 0;
   }
 
-  private boolean call(int run, int which, Object[] arguments, List<String> told) throws Exception {
-    String due = answer(theirs.get(which), plain, arguments);
-    String got = answer(ours.get(which), house, arguments);
-    String text = KINDS.get(which).name + Arrays.toString(arguments);
-    if (!due.equals(got)) {
+  private boolean call(int run, int which, Object[] arguments, List<String> told) {
+    String name = KINDS.get(which).name;
+    String text = name + Arrays.toString(arguments);
+    if (!pair.call(name, arguments)) {
       wrong++;
-      System.out.println("run " + run + ": " + text + " answered " + got + ", due is " + due);
+      System.out.println("run " + run + ": " + text + " answered " + pair.got() + ", due is " + pair.due());
       return false;
     }
-    told.add(text + "=" + got);
+    told.add(text + "=" + pair.got());
     return true;
-  }
-
-  private static String answer(Method method, Object on, Object[] arguments) throws Exception {
-    try {
-      return String.valueOf(method.invoke(on, arguments));
-    } catch (InvocationTargetException e) {
-      return e.getCause().getClass().getName();
-    }
   }
 
   private Object[] arguments(Kind kind) {
@@ -221,14 +191,14 @@ public final class ModelTest {
       case 's' -> below(20) == 0 ? 4 * below(2) : 1 + below(3);
       case 'e' -> below(20) == 0 ? -1 : below(below(4) == 0 ? 7 : 3);
       case 'c' -> below(20) == 0 ? -1 : below(below(4) == 0 ? 7 : 3);
-      case 'k' -> among(plain.keyCount());
-      case 'd' -> among(plain.doorCount());
-      case 'p' -> among(plain.personCount());
-      case 'q' -> below(6) == 0 ? -1 : among(plain.personCount());
-      case 'g' -> among(plain.gateCount());
-      case 'r' -> among(plain.cardCount());
-      case 'B' -> among(plain.blockCount());
-      case 'D' -> below(30) == 0 ? -below(2) : below(30) == 0 ? 1 << plain.doorCount() : someDoors();
+      case 'k' -> among(pair.plain.keyCount());
+      case 'd' -> among(pair.plain.doorCount());
+      case 'p' -> among(pair.plain.personCount());
+      case 'q' -> below(6) == 0 ? -1 : among(pair.plain.personCount());
+      case 'g' -> among(pair.plain.gateCount());
+      case 'r' -> among(pair.plain.cardCount());
+      case 'B' -> among(pair.plain.blockCount());
+      case 'D' -> below(30) == 0 ? -below(2) : below(30) == 0 ? 1 << pair.plain.doorCount() : someDoors();
       case 'K' -> below(20) == 0 ? 65536 * below(2) : below(20) == 0 ? 65535 : below(65536);
       case 'R' -> below(20) == 0 ? 1024 * below(2) : below(20) == 0 ? 1023 : below(1024);
       case 'h' -> below(20) == 0 ? -1 : below(20) == 0 ? 64 : below(below(8) == 0 ? 64 : 8);
@@ -243,7 +213,7 @@ public final class ModelTest {
   }
 
   private int someDoors() {
-    int doors = plain.doorCount();
+    int doors = pair.plain.doorCount();
     return doors == 0 ? 1 : below(3) == 0 ? 1 + below((1 << doors) - 1) : 1 << below(doors);
   }
 
